@@ -108,7 +108,9 @@ final class Check {
         return all;
     }
 
-    /** All that the face tells of an object without changing it, for "changes nothing". */
+    private static final int[] ADDRESSES = {0, 1, 2, 3, 5, 62, 63, 64, 70, 127, 128, 191, 192, 255, 256};
+
+    /** What the face tells of an object without changing it; in few calls, as only 512 are promised to an object. */
     static String stateOf(WasmCore x) {
         StringBuilder all = new StringBuilder();
         for (int which = 0; which <= 6; which++) {
@@ -126,7 +128,7 @@ final class Check {
             }
         }
         all.append(" memory=");
-        for (int a = 0; a < 257; a++) {
+        for (int a : ADDRESSES) {
             all.append(x.peek(a)).append(',');
         }
         try {
