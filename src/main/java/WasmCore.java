@@ -502,7 +502,11 @@ public final class WasmCore {
             height = 0;
             openFrame(BODY, code.results[f], NONE);
             for (int left = bodyEnd - place; left > 0 && place < bodyEnd; left--) {
-                checkInstruction(code.words[place]);
+                int op = code.words[place];
+                checkImmediates(Op.shapeOf(op));
+                if (error == 0) {
+                    checkTyping(op);
+                }
                 if (error != 0) {
                     return;
                 }
@@ -517,13 +521,6 @@ public final class WasmCore {
         private void fail(int number) {
             if (error == 0) {
                 error = number;
-            }
-        }
-
-        private void checkInstruction(int op) {
-            checkImmediates(Op.shapeOf(op));
-            if (error == 0) {
-                checkTyping(op);
             }
         }
 

@@ -36,6 +36,7 @@ public final class CheckTest {
         theEndOfTheBody();
         calls();
         theFirstErrorCounts();
+        anErrorLeavesNoTrace();
         faultStays();
         Check.finish("CheckTest");
     }
@@ -408,6 +409,19 @@ public final class CheckTest {
         Check.function(y, 0, 0, 0, END);
         Check.same("5: an end that is not there", y.validate(), 1);
         Check.same("6: its place is the word behind the body", y.fault(1), 2);
+    }
+
+    private static void anErrorLeavesNoTrace() {
+        // at the ERROR two frames are open and 18 values are there; the next validate() begins anew with both
+        int[] many = Check.repeat(18, CONST, 1);
+        int[] drops = Check.repeat(20, DROP);
+        WasmCore x = new WasmCore();
+        Check.function(x, 0, 0, 1, Check.join(many, new int[] {BLOCK, 0, CALL, 1, END, CONST, 2, CONST, 3}, drops,
+                new int[] {BLOCK, 1, CONST, 4, CONST, 5, BR, 0, END, END}));
+        Check.same("5: an ERROR in the middle", x.validate(), 5);
+        Check.function(x, 0, 0, 0, END);
+        Check.same("5: and none the next time", x.validate(), 0);
+        Check.same("10: the run is as it should be", Check.resultOf(x, 0), 5);
     }
 
     private static void faultStays() {

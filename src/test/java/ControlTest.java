@@ -143,6 +143,13 @@ public final class ControlTest {
         y.invoke(0);
         path("br out of a called body", y, 0, 2, 6, 8, 10, 4, 5);
         Check.same("10: 3 - 9", y.result(), -6);
+        // br to a block and to a loop of a called function falls to a height of that call's own
+        WasmCore v = Check.single(1, 0, 1, 0x41, 3, 0x41, 4, 0x20, 0, 0x10, 1, 0x6A, 0x6A, 0x0B);
+        Check.function(v, 1, 0, 1, 0x41, 50, 0x03, 0, 0x41, 60, 0x41, 0, 0x20, 0, 0x41, 0, 0x21, 0, 0x0D, 0, 0x1A, 0x1A,
+                0x0B, 0x02, 1, 0x41, 70, 0x41, 80, 0x0C, 0, 0x0B, 0x6A, 0x0B);
+        Check.checked(v);
+        Check.same("10: 3 + 4 + 50 + 80, the loop once", Check.resultOf(v, 0, 0), 137);
+        Check.same("10: 3 + 4 + 50 + 80, the loop twice", Check.resultOf(v, 0, 1), 137);
         // br_if to the body's label: 0 const 8, 2 get 0, 4 br_if 0, 6 drop, 7 const 9, 9 end
         WasmCore z = Check.checked(Check.single(1, 0, 1, 0x41, 8, 0x20, 0, 0x0D, 0, 0x1A, 0x41, 9, 0x0B));
         Check.invoke(z, 0, 1);
