@@ -21,6 +21,14 @@ final class Check {
         }
     }
 
+    static void sameText(String what, String got, String due) {
+        asked++;
+        if (!got.equals(due)) {
+            wrong++;
+            System.out.println(what + " answered " + got + ", due is " + due);
+        }
+    }
+
     static void isTrue(String what, boolean got) {
         same(what, got ? 1 : 0, 1);
     }
@@ -58,6 +66,32 @@ final class Check {
         }
         x.declare(parameters, locals, results);
         return x;
+    }
+
+    /** As function, in few calls: up to eight words that are bytes are fed at once. */
+    static WasmCore fed(WasmCore x, int parameters, int locals, int results, int... words) {
+        feed(x, words);
+        x.declare(parameters, locals, results);
+        return x;
+    }
+
+    static void feed(WasmCore x, int... words) {
+        int at = 0;
+        while (at < words.length) {
+            long packed = 0;
+            int n = 0;
+            while (n < 8 && at + n < words.length && (words[at + n] & ~255) == 0) {
+                packed = packed << 8 | words[at + n];
+                n++;
+            }
+            if (n == 0) {
+                x.word(words[at]);
+                at++;
+            } else {
+                x.feed(n, packed);
+                at += n;
+            }
+        }
     }
 
     /** A new object with one function. */
