@@ -230,7 +230,7 @@ public final class CheckLimitsTest {
         wrong("br 2 in an else", 4, 4, 0, 0, row(SIZE, IF, 0, ELSE, BR, 2, END, END));
     }
 
-    /** "To PUSH k: the height grows by k, at most 20, else ERROR 6": by all that puts a value on a height of 19 and 20. */
+    /** "To PUSH k: the height grows by k, at most 20, else ERROR 6": by all that gives a value, at 19 and at 20. */
     private static void heightOf20() {
         int[][] pushes = {row(CONST, 1), row(GET, 0), row(GLOBAL_GET, 3), row(SIZE), row(BLOCK, 1, UNREACHABLE, END)};
         int[] places = {0, 0, 0, 0, 3};
@@ -264,7 +264,8 @@ public final class CheckLimitsTest {
         for (int below = 0; below <= 20; below++) {
             int[] before = Check.repeat(below, SIZE);
             int[] within = Check.repeat(20 - below, SIZE);
-            right("20 in all, " + below + " below a block", 0, 0, before, row(BLOCK, 0), within, row(BR, 0, END, RETURN, END));
+            right("20 in all, " + below + " below a block", 0, 0, before, row(BLOCK, 0), within,
+                    row(BR, 0, END, RETURN, END));
             wrong("21 in all, " + below + " below a block", 6, 22, 0, 0, before, row(BLOCK, 0), within,
                     row(SIZE, BR, 0, END, RETURN, END));
         }
@@ -333,7 +334,8 @@ public final class CheckLimitsTest {
         wrong("a ninth frame where it is not reached", 6, 17, 0, 0, eight, row(UNREACHABLE, BLOCK, 0),
                 Check.repeat(10, END));
         // an else is no new frame
-        right("an else in the eighth frame", 0, 0, Check.repeat(7, BLOCK, 0), row(SIZE, IF, 0, ELSE), Check.repeat(9, END));
+        right("an else in the eighth frame", 0, 0, Check.repeat(7, BLOCK, 0), row(SIZE, IF, 0, ELSE),
+                Check.repeat(9, END));
         wrong("a ninth frame in an else", 6, 18, 0, 0, Check.repeat(7, BLOCK, 0), row(SIZE, IF, 0, ELSE, LOOP, 0),
                 Check.repeat(10, END));
         // each function has frames of its own
@@ -377,7 +379,7 @@ public final class CheckLimitsTest {
         wrong("an else's end without its value", 2, 5, 0, 0, row(SIZE, IF, 1, SIZE, ELSE, END, DROP, END));
     }
 
-    /** "unless the frame is not reached (then nothing goes)"; "LEAVE off: .. the height becomes that of the innermost frame". */
+    /** "unless the frame is not reached (then nothing goes)"; "the height becomes that of the innermost frame". */
     private static void poppingWhereItIsNotReached() {
         int[][] leaves = {row(UNREACHABLE), row(BR, 0), row(RETURN), row(SIZE, TABLE, 0, 0)};
         for (int[] leave : leaves) {
@@ -456,7 +458,8 @@ public final class CheckLimitsTest {
         // "reached" from then on
         wrong("the else is reached", 2, 5, 0, 0, row(SIZE, IF, 0, UNREACHABLE, ELSE, DROP, END, END));
         // the else begins at the height of the if
-        right("the else begins without the if's result", 0, 0, row(SIZE, SIZE, IF, 1, SIZE, ELSE, SIZE, END, DROP, DROP, END));
+        right("the else begins without the if's result", 0, 0,
+                row(SIZE, SIZE, IF, 1, SIZE, ELSE, SIZE, END, DROP, DROP, END));
     }
 
     /** "end: POP the results of the innermost frame; ERROR 3 if the height is not that of its beginning then". */
@@ -507,10 +510,11 @@ public final class CheckLimitsTest {
                 row(BLOCK, 0, LOOP, 1, SIZE, TABLE, 2, 0, 1, 0, END, DROP, END, END));
         wrong("a loop with a result and a block with one", 3, 5, 0, 0,
                 row(BLOCK, 1, LOOP, 1, SIZE, TABLE, 1, 0, 1, END, END, DROP, END));
-        wrong("labels that differ, not reached", 3, 5, 0, 1, row(BLOCK, 0, UNREACHABLE, SIZE, SIZE, TABLE, 1, 0, 1, END, SIZE, END));
+        wrong("labels that differ, not reached", 3, 5, 0, 1,
+                row(BLOCK, 0, UNREACHABLE, SIZE, SIZE, TABLE, 1, 0, 1, END, SIZE, END));
     }
 
-    /** "ERROR 7 if the body's frame goes before the body's last word, ERROR 1 if it has not gone at the end of the body". */
+    /** "ERROR 7 if the body's frame goes before the body's last word, ERROR 1 if it has not gone at the end". */
     private static void bodysLastWord() {
         right("the end is the last word", 0, 0, row(NOP, END));
         wrong("one word behind the end", 7, 1, 0, 0, row(NOP, END, NOP));
@@ -591,6 +595,10 @@ public final class CheckLimitsTest {
             WasmCore y = Seen.told(before);
             y.validate();
             Check.sameText("5: ERROR " + errors[i] + ", and on", Seen.goesOn(y), Seen.goesOn(Seen.told(before)));
+            WasmCore z = Seen.told(before);
+            z.validate();
+            Check.sameText("5: ERROR " + errors[i] + ", the arguments", Seen.takesArguments(z),
+                    " arguments 3 4 -1 -1 -1");
             int count = x.look(6);
             Check.same("5: a word more can come", x.word(END), count + 1);
         }

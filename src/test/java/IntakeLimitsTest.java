@@ -30,24 +30,21 @@ public final class IntakeLimitsTest {
         Check.feed(x, Check.repeat(count, 0x01));
     }
 
-    /** "An OPEN module without code; memory and globals 0"; "a row of at most 240 WORDS, at first empty"; "1 at first". */
+    /** "An OPEN module without code; memory and globals 0"; "at first empty"; "1 at first". */
     private static void codeIsAtFirstEmpty() {
         Check.sameText("1: a new object", Seen.looks(new WasmCore()), "0 0 -1 0 0 1 0 fault -1 -1"
                 + " result IllegalStateException values 0 IndexOutOfBoundsException values 1 IndexOutOfBoundsException"
                 + " values 2 0 0 0 0 IndexOutOfBoundsException memory" + " 0".repeat(64) + " -1");
         Check.sameText("1: nothing runs, waits or is declared", Seen.goesOn(new WasmCore()),
-                " steps 0 status 0 trap 0 result IllegalStateException stopped false 1 2 3 4 -1"
-                + " declare IllegalStateException validate IllegalStateException fault -1 -1"
-                + repeatedFunctions() + " global 0 global 0 global 0 global 0 pages 1 words 0");
+                " steps 0 status 0 trap 0 result IllegalStateException stopped false"
+                + " declare IllegalStateException validate IllegalStateException fault -1 -1" + nothingOf(0)
+                + " arguments 1 2 3 4 -1" + nothingOf(0) + nothingOf(1) + nothingOf(2) + nothingOf(3) + nothingOf(4)
+                + nothingOf(5) + nothingOf(6) + " global 0 global 0 global 0 global 0 pages 1 words 0");
     }
 
-    private static String repeatedFunctions() {
-        StringBuilder all = new StringBuilder();
-        for (int f = 0; f <= 6; f++) {
-            all.append(" function ").append(f).append(" IllegalStateException steps 0 status 0 trap 0"
-                    + " result IllegalStateException stopped false");
-        }
-        return all.toString();
+    private static String nothingOf(int f) {
+        return " function " + f + " IllegalStateException steps 0 status 0 trap 0 result IllegalStateException"
+                + " stopped false";
     }
 
     /** "The n lowest bytes of words, the highest first": 1 and 8 are allowed, and all between; 0 and 9 are not. */

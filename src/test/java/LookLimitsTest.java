@@ -1,6 +1,6 @@
 /**
- * The boundary cases of looking in from outside and of the memory (promises 13 to 16, loads, stores and memory.grow among
- * the Terms), each sentence with a test of its own.
+ * The boundary cases of looking in from outside and of the memory (promises 13 to 16, and loads, stores and memory.grow
+ * among the Terms), each sentence with a test of its own.
  */
 public final class LookLimitsTest {
     private static final int LEAST = Integer.MIN_VALUE;
@@ -137,8 +137,8 @@ public final class LookLimitsTest {
     /** "Value k of the stack while RUNNING (0 is the lowest), local x of the innermost call, global x". */
     private static void valuesUpToTheLast() {
         WasmCore x = new WasmCore();
-        Check.fed(x, 4, 4, 0, 0x41, 70, 0x21, 7, 0x41, 60, 0x24, 0, 0x41, 61, 0x24, 3, 0x41, 50, 0x41, 51, 0x41, 52, 0x10, 1,
-                0x0F, 0x0B);
+        Check.fed(x, 4, 4, 0, 0x41, 70, 0x21, 7, 0x41, 60, 0x24, 0, 0x41, 61, 0x24, 3, 0x41, 50, 0x41, 51,
+                0x41, 52, 0x10, 1, 0x0F, 0x0B);
         Check.fed(x, 0, 1, 0, 0x41, 9, 0x21, 0, 0x0B);
         Check.checked(x);
         Check.invoke(x, 0, 1, 2, 3, 4);
@@ -234,7 +234,8 @@ public final class LookLimitsTest {
             Check.isTrue("16: poke(63, " + v + ")", x.poke(63, v));
             Check.same("15: what was poked", x.peek(63), v & 255);
         }
-        int[][] far = {{LEAST, 0}, {MOST, 255}, {LEAST + 5, 5}, {0x12345678, 0x78}, {-256, 0}, {-257, 255}, {128, 128}, {-128, 128}};
+        int[][] far = {{LEAST, 0}, {MOST, 255}, {LEAST + 5, 5}, {0x12345678, 0x78}, {-256, 0}, {-257, 255}, {128, 128},
+            {-128, 128}};
         for (int[] line : far) {
             Check.isTrue("16: poke(0, " + line[0] + ")", x.poke(0, line[0]));
             Check.same("15: what was poked", x.peek(0), line[1]);
@@ -287,14 +288,16 @@ public final class LookLimitsTest {
         }
         Check.same("13: four pages", x.look(5), 4);
         // memory.size tells the same
-        WasmCore y = Check.checked(Check.fed(new WasmCore(), 0, 0, 1, 0x3F, 0x41, 3, 0x40, 0x1A, 0x3F, 0x41, 10, 0x6C, 0x6A, 0x0B));
+        WasmCore y = Check.checked(Check.fed(new WasmCore(), 0, 0, 1, 0x3F, 0x41, 3, 0x40, 0x1A, 0x3F, 0x41, 10,
+                0x6C, 0x6A, 0x0B));
         Check.same("10: memory.size before and behind", Check.resultOf(y, 0), 41);
     }
 
     /** "(d without sign)": also where the sum of the pages would wrap round to a small one. */
     private static void growWithoutSign() {
+        int[] tooMany = {-1, -2, -3, -4, -5, LEAST, LEAST + 1, MOST, MOST - 1, 1 << 26, -(1 << 26), 256, 0x10000};
         for (int pages = 1; pages <= 4; pages++) {
-            for (int d : new int[] {-1, -2, -3, -4, -5, LEAST, LEAST + 1, MOST, MOST - 1, 1 << 26, -(1 << 26), 256, 0x10000}) {
+            for (int d : tooMany) {
                 WasmCore x = Seen.told(pages(pages, 1, 1, 0x20, 0, 0x40, 0x0B));
                 Check.same("10: grow by " + d + " from " + pages, Check.resultOf(x, 0, d), -1);
                 Check.same("13: the pages stay", x.look(5), pages);
@@ -302,6 +305,7 @@ public final class LookLimitsTest {
         }
     }
 
+    /** "memory .. 0": the pages that come later, too. */
     private static void grownPagesAre0() {
         WasmCore x = Check.checked(Check.fed(new WasmCore(), 1, 0, 1, 0x20, 0, 0x40, 0x0B));
         for (int a = 0; a < 64; a++) {
@@ -343,6 +347,7 @@ public final class LookLimitsTest {
         }
     }
 
+    /** As loads; "A trapping instruction changes nothing else": not even the bytes that are there. */
     private static void storesUpToTheLastByte() {
         for (int pages = 1; pages <= 4; pages++) {
             int size = 64 * pages;
@@ -373,8 +378,8 @@ public final class LookLimitsTest {
             boolean store = op >= 0x36;
             int last = 64 - bytesOf(op);
             for (int o : new int[] {0, 1, last - 1, last, last + 1, 64, 65, MOST}) {
-                WasmCore x = Check.checked(Check.fed(new WasmCore(), 1, 0, 0,
-                        Check.join(row(0x20, 0), store ? row(0x41, 7) : row(), row(op, o), store ? row(0x0B) : row(0x1A, 0x0B))));
+                WasmCore x = Check.checked(Check.fed(new WasmCore(), 1, 0, 0, store
+                        ? row(0x20, 0, 0x41, 7, op, o, 0x0B) : row(0x20, 0, op, o, 0x1A, 0x0B)));
                 for (int a : new int[] {0, 1, last - 1, last, last + 1, -1, -o, -o - 1, -o + 1, LEAST, MOST}) {
                     long place = (a & 0xFFFFFFFFL) + o;
                     Check.same("10: " + op + " at " + a + " + " + o, Check.trapOf(x, 0, a), place <= last ? 0 : 4);

@@ -66,12 +66,14 @@ public final class RunLimitsTest {
                 if (waiting == 4) {
                     Seen.refused(what, "-1", story, y -> y.argument(77));
                 } else {
-                    Check.sameText(what, Seen.answer(Seen.told(story), y -> y.argument(77)), Integer.toString(waiting + 1));
+                    Check.sameText(what, Seen.answer(Seen.told(story), y -> y.argument(77)),
+                            Integer.toString(waiting + 1));
                 }
             }
         }
     }
 
+    /** "One more argument for the next run": from the least int to the greatest. */
     private static void everyIntIsAnArgument() {
         for (int v : EDGES) {
             WasmCore x = one(4, 0, 1, row(0x20, 3, 0x0B));
@@ -253,7 +255,8 @@ public final class RunLimitsTest {
                 Check.same("11: no step", x.run(500), 0);
                 Check.sameText("11: nothing on the stack", Seen.answer(x, y -> y.value(0, 0)), INDEX);
                 Check.sameText("11: no local", Seen.answer(x, y -> y.value(1, 0)), INDEX);
-                Check.same("11: the arguments that wait", x.argument(1), state.waiting() == 4 ? -1 : state.waiting() + 1);
+                Check.same("11: the arguments that wait", x.argument(1),
+                        state.waiting() == 4 ? -1 : state.waiting() + 1);
             }
         }
         // at the last moment, before the last step, and one step too late
@@ -273,7 +276,8 @@ public final class RunLimitsTest {
     private static void resultWhenItIsDone() {
         for (State state : State.ALL) {
             String due = state.status() != State.DONE ? STATE : state.name().equals("DONE with a result") ? "53" : "0";
-            Check.sameText("12: result() of " + state.name(), Seen.answer(Seen.told(state.story()), WasmCore::result), due);
+            String got = Seen.answer(Seen.told(state.story()), WasmCore::result);
+            Check.sameText("12: result() of " + state.name(), got, due);
         }
         for (int v : EDGES) {
             WasmCore x = one(0, 0, 1, row(0x41, v, 0x0B));
@@ -497,7 +501,7 @@ public final class RunLimitsTest {
         Check.same("10: locals on the way back", Check.resultOf(back, 0, 5), 12345);
     }
 
-    /** "if takes c .. if c is 0"; "br_if takes c, and goes if it is not 0"; "select .. gives a if c is not 0, else b". */
+    /** "if takes c .. if c is 0"; "br_if .. goes if it is not 0"; "select .. gives a if c is not 0, else b". */
     private static void conditions() {
         WasmCore branch = one(1, 0, 1, row(0x20, 0, 0x04, 1, 0x41, 1, 0x05, 0x41, 2, 0x0B, 0x0B));
         WasmCore jump = one(1, 0, 1, row(0x02, 0, 0x20, 0, 0x0D, 0, 0x41, 2, 0x0F, 0x0B, 0x41, 1, 0x0B));
@@ -551,7 +555,8 @@ public final class RunLimitsTest {
             {0x74, v, 6, LEAST}, {0x75, v, 0xC0000001, -1}, {0x76, v, 0x40000001, 1},
             {0x77, v, 7, 0xC0000001}, {0x78, v, 0xC0000001, 7},
         };
-        int[][] by = {{0, 32, 64, -32, LEAST, 0x100, 0x7FFFFFE0}, {1, 33, 65, -31, LEAST + 1, 0x101}, {31, 63, 95, -1, MOST}};
+        int[][] by = {{0, 32, 64, -32, LEAST, 0x100, 0x7FFFFFE0}, {1, 33, 65, -31, LEAST + 1, 0x101},
+            {31, 63, 95, -1, MOST}};
         for (int[] line : due) {
             WasmCore x = one(2, 0, 1, row(0x20, 0, 0x20, 1, line[0], 0x0B));
             for (int i = 0; i < by.length; i++) {
@@ -574,7 +579,8 @@ public final class RunLimitsTest {
         };
         for (int[] line : due) {
             WasmCore x = one(2, 0, 1, row(0x20, 0, 0x20, 1, line[0], 0x0B));
-            Check.same("10: " + line[0] + " of " + line[1] + " and " + line[2], Check.resultOf(x, 0, line[1], line[2]), line[3]);
+            Check.same("10: " + line[0] + " of " + line[1] + " and " + line[2],
+                    Check.resultOf(x, 0, line[1], line[2]), line[3]);
         }
         int[][] ofOne = {{0x45, 0, 1}, {0x45, 1, 0}, {0x45, LEAST, 0}, {0x67, 0, 32}, {0x67, 1, 31}, {0x67, -1, 0},
             {0x68, 0, 32}, {0x68, LEAST, 31}, {0x68, -1, 0}, {0x69, 0, 0}, {0x69, -1, 32}, {0x69, LEAST, 1}};
@@ -603,7 +609,8 @@ public final class RunLimitsTest {
         };
         for (int[] line : due) {
             WasmCore x = one(2, 0, 1, row(0x20, 0, 0x20, 1, line[0], 0x0B));
-            Check.same("10: " + line[0] + " of " + line[1] + " by " + line[2], Check.resultOf(x, 0, line[1], line[2]), line[3]);
+            Check.same("10: " + line[0] + " of " + line[1] + " by " + line[2],
+                    Check.resultOf(x, 0, line[1], line[2]), line[3]);
         }
         WasmCore y = one(2, 0, 1, row(0x20, 0, 0x20, 1, 0x6D, 0x0B));
         Check.same("10: div_s of the least int by -1", Check.trapOf(y, 0, LEAST, -1), 3);
@@ -638,8 +645,8 @@ public final class RunLimitsTest {
     }
 
     /**
-     * Function 0 sets the scene in eight steps, puts values on the stack and calls function 1; the step behind the given
-     * ones traps.
+     * Function 0 sets the scene in eight steps, puts values on the stack and calls function 1; the step behind the
+     * given ones traps.
      */
     private static void trapAfter(String what, int values, int steps, int trap, Seen.Story functions) {
         Seen.Story story = x -> {
@@ -670,6 +677,7 @@ public final class RunLimitsTest {
     /** The globals, the memory, the words and the fault. */
     private static String onlyWhatStays(WasmCore x) {
         String all = Seen.looks(x);
-        return x.look(5) + " " + x.look(6) + " " + x.fault(0) + " " + x.fault(1) + all.substring(all.indexOf(" values 2"));
+        return x.look(5) + " " + x.look(6) + " " + x.fault(0) + " " + x.fault(1)
+                + all.substring(all.indexOf(" values 2"));
     }
 }

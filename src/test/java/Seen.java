@@ -43,6 +43,8 @@ final class Seen {
     static void same(String what, Story one, Ask ofOne, Story other, Ask ofOther) {
         Check.sameText(what + " by looking", looks(behind(one, ofOne)), looks(behind(other, ofOther)));
         Check.sameText(what + " by going on", goesOn(behind(one, ofOne)), goesOn(behind(other, ofOther)));
+        Check.sameText(what + " by arguments", takesArguments(behind(one, ofOne)),
+                takesArguments(behind(other, ofOther)));
     }
 
     private static WasmCore behind(Story story, Ask ask) {
@@ -82,29 +84,40 @@ final class Seen {
     }
 
     /**
-     * What the object answers from now on: how the run ends, how many arguments wait, whether there are words that
-     * are no body yet, what the check says, and what each function does. Arguments that wait are seen best if
-     * function 0 has four parameters.
+     * What the object answers from now on: how the run ends, whether there are words that are no body yet, what the
+     * check says, which arguments wait and how many, and what each function does. To show the arguments that wait,
+     * function 0 has to have four parameters; it is asked for before an argument more could take the place of one.
      */
     static String goesOn(WasmCore x) {
         StringBuilder all = new StringBuilder();
         tellRun(all, x);
-        for (int i = 0; i < 5; i++) {
-            all.append(' ').append(x.argument(90 + i));
-        }
         all.append(" declare ").append(answer(x, y -> y.declare(0, 0, 0)));
         all.append(" validate ").append(answer(x, WasmCore::validate));
         all.append(" fault ").append(x.fault(0)).append(' ').append(x.fault(1));
+        tellFunction(all, x, 0);
+        all.append(takesArguments(x));
         for (int f = 0; f <= 6; f++) {
-            int function = f;
-            all.append(" function ").append(f).append(' ').append(answer(x, y -> invoked(y, function)));
-            tellRun(all, x);
+            tellFunction(all, x, f);
         }
         for (int k = 0; k < 4; k++) {
             all.append(" global ").append(x.value(2, k));
         }
         all.append(" pages ").append(x.look(5)).append(" words ").append(x.look(6));
         return all.toString();
+    }
+
+    /** How many arguments wait, shown by those that are taken still. */
+    static String takesArguments(WasmCore x) {
+        StringBuilder all = new StringBuilder(" arguments");
+        for (int i = 0; i < 5; i++) {
+            all.append(' ').append(x.argument(90 + i));
+        }
+        return all.toString();
+    }
+
+    private static void tellFunction(StringBuilder all, WasmCore x, int f) {
+        all.append(" function ").append(f).append(' ').append(answer(x, y -> invoked(y, f)));
+        tellRun(all, x);
     }
 
     static long invoked(WasmCore x, int f) {
